@@ -769,7 +769,9 @@ public final class TrousseauFlow {
                 workOn(i);
             }
             for (int branch = 1; branch <= LAST_BRANCH; branch++) {
-                undoInBranch(branch);
+                if (isCancelled(branch)) {
+                    undoInBranch(branch);
+                }
             }
             leaveOutHopeless();
             beginTries();

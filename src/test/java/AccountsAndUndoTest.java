@@ -13,6 +13,7 @@ final class AccountsAndUndoTest {
         promise27();
         promise28();
         everyChange();
+        anotherInItsPlace();
         promise29And30();
         C.end();
     }
@@ -106,6 +107,11 @@ final class AccountsAndUndoTest {
         x.undo();
         x.undo();
         C.due("after undo", x.isBalanced(), 1);
+        for (int i = 0; i < 4; i++) {
+            x.step(9, 0, 0, true);
+            x.need(8 + i, 7 + i);
+        }
+        C.due("with twelve steps", x.isBalanced(), 1);
     }
 
     private static void promise26() {
@@ -169,59 +175,130 @@ final class AccountsAndUndoTest {
         C.due("eight, and five less", y.account(18), 3);
     }
 
+    private static final String[] KINDS = {"step", "need", "fault", "hands", "cancel", "milestone", "days", "run",
+        "a step of a cancelled branch", "a failing step"};
+
     /** Each kind of change, and that undo takes back all that it changed. */
     private static void everyChange() {
-        TrousseauFlow x = new TrousseauFlow();
-        x.step(2, 1, 1, false);
-        x.step(3, 0, 1, false);
-        x.days(3);
-        String before = picture(x);
-        int count = x.account(18);
-        String[] kinds = {"step", "need", "fault", "hands", "cancel", "milestone", "days", "run", "step of cancelled"};
-        for (int kind = 0; kind < kinds.length; kind++) {
-            int made = 1;
-            switch (kind) {
-                case 0:
-                    x.step(9, 2, 1, true);
-                    break;
-                case 1:
-                    x.step(1, 0, 0, false);
-                    x.need(2, 1);
-                    made = 2;
-                    break;
-                case 2:
-                    x.fault(1, 3);
-                    break;
-                case 3:
-                    x.hands(3);
-                    break;
-                case 4:
-                    C.due("cancel", x.cancel(1), 1);
-                    break;
-                case 5:
-                    x.milestone(1, 1);
-                    break;
-                case 6:
-                    x.days(30);
-                    break;
-                case 7:
-                    C.due("run", Check.run(x, "cancel 1;day 2;step 2 2 2;mile 2@1"), 4);
-                    break;
-                default:
-                    x.cancel(2);
-                    x.step(1, 1, 2, false);
-                    made = 2;
-                    break;
-            }
-            C.due(kinds[kind] + " counts", x.account(18), count + made);
-            C.due(kinds[kind] + " changes", picture(x).equals(before) ? 1 : 0, 0);
-            for (int k = 0; k < made; k++) {
-                x.undo();
-            }
-            C.dueText(kinds[kind] + " is undone", picture(x), before);
+        for (int kind = 0; kind < KINDS.length; kind++) {
+            TrousseauFlow x = new TrousseauFlow();
+            x.step(2, 1, 1, false);
+            x.step(3, 0, 1, false);
+            x.step(1, 0, 0, false);
+            x.need(2, 1);
+            x.cancel(2);
+            x.milestone(0, 2);
+            x.days(3);
+            String before = picture(x);
+            int count = x.account(18);
+            change(x, kind);
+            C.due(KINDS[kind] + " counts", x.account(18), count + 1);
+            C.due(KINDS[kind] + " changes", picture(x).equals(before) ? 1 : 0, 0);
+            C.due(KINDS[kind] + " undone", x.undo(), count);
+            C.dueText(KINDS[kind] + " is undone", picture(x), before);
+            x.hands(2);
+            C.due("a change by which nothing is different", x.account(18), count + 1);
         }
-        x.hands(2);
-        C.due("a change by which nothing is different", x.account(18), count + 1);
+    }
+
+    private static void change(TrousseauFlow x, int kind) {
+        switch (kind) {
+            case 0:
+                C.due("step", x.step(9, 2, 1, true), 3);
+                break;
+            case 1:
+                C.due("need", x.need(2, 0), 2);
+                break;
+            case 2:
+                C.due("fault", x.fault(1, 3), 3);
+                break;
+            case 3:
+                C.due("hands", x.hands(3), 2);
+                break;
+            case 4:
+                C.due("cancel", x.cancel(1), 1);
+                break;
+            case 5:
+                C.due("milestone", x.milestone(1, 1), 1);
+                break;
+            case 6:
+                C.due("days", x.days(30), 2);
+                break;
+            case 7:
+                C.due("run", Check.run(x, "cancel 1;day 2;step 2 2 3;mile 3@1"), 4);
+                break;
+            case 8:
+                C.due("step", x.step(1, 1, 2, false), 3);
+                break;
+            default:
+                C.due("run", Check.run(x, "fault 1*1;day 1"), 2);
+                break;
+        }
+    }
+
+    /** A step that takes the place of one that was undone has nothing of it; and restore brings all of it back. */
+    private static void anotherInItsPlace() {
+        TrousseauFlow x = new TrousseauFlow();
+        x.step(1, 0, 0, false);
+        x.step(9, 3, 3, true);
+        x.need(1, 0);
+        x.fault(1, 4);
+        x.milestone(1, 40);
+        x.days(13);
+        x.fault(1, 5);
+        String before = picture(x);
+        x.save();
+        for (int k = 0; k < 6; k++) {
+            x.undo();
+        }
+        C.due("one step", x.account(1), 1);
+        x.step(2, 1, 1, false);
+        int[] fresh = {2, 1, 1, 0, 0, 0, 0, 0, NOTHING, 0};
+        for (int what = 0; what < fresh.length; what++) {
+            C.due("in its place, stepOf(1, " + what + ")", x.stepOf(1, what), fresh[what]);
+        }
+        C.due("without its milestone", x.milestone(1, 7), 0);
+        x.milestone(0, 3);
+        x.hands(3);
+        x.days(2);
+        x.restore();
+        C.dueText("all of it is back", picture(x), before);
+        C.refused("its milestone, too", x, x.milestone(1, 1), 3, 40);
+        C.due("and not the other's", x.milestone(0, 1), 1);
+        TrousseauFlow y = new TrousseauFlow();
+        y.step(1, 1, 0, false);
+        y.save();
+        y.step(9, 3, 3, true);
+        y.need(1, 0);
+        y.fault(1, 4);
+        y.milestone(1, 1);
+        y.days(4);
+        C.letters("it runs", y, "dr");
+        C.due("the step of the milestone", y.milestoneOf(0, 0), 1);
+        y.restore();
+        y.step(2, 1, 1, false);
+        for (int what = 0; what < fresh.length; what++) {
+            C.due("after restore, stepOf(1, " + what + ")", y.stepOf(1, what), fresh[what]);
+        }
+        y.milestone(0, 2);
+        y.save();
+        y.restore();
+        y.undo();
+        C.due("the milestone's step", y.milestoneOf(0, 0), 0);
+        y.hands(1);
+        y.restore();
+        C.due("the milestone's step again", y.milestoneOf(0, 0), 0);
+        TrousseauFlow z = new TrousseauFlow();
+        z.step(1, 0, 0, false);
+        z.step(1, 0, 0, false);
+        z.save();
+        z.milestone(1, 5);
+        z.save();
+        z.undo();
+        z.milestone(0, 6);
+        z.restore();
+        C.due("the snapshot's milestone", z.milestoneOf(0, 0), 1);
+        C.due("its day", z.milestoneOf(0, 1), 5);
     }
 
     private static void promise29And30() {

@@ -104,6 +104,26 @@ final class StepsAndNeedsTest {
         C.letters("after three days", x, "drr");
         C.refused("how it is ahead of so already", x, x.need(1, 0), 5, 1);
         C.refused("done", x, x.need(0, 1), 5, 3);
+        needsOfTwelve();
+    }
+
+    private static void needsOfTwelve() {
+        TrousseauFlow up = new TrousseauFlow();
+        TrousseauFlow down = new TrousseauFlow();
+        for (int i = 0; i < 12; i++) {
+            up.step(1, 0, 0, false);
+            down.step(1, 0, 0, true);
+        }
+        for (int i = 0; i < 11; i++) {
+            C.due("up", up.need(i + 1, i), 1);
+            C.due("down", down.need(i, i + 1), 1);
+        }
+        for (int i = 1; i < 12; i++) {
+            C.refused("up, over " + i, up, up.need(0, i), 4, i);
+            C.refused("down, over " + i, down, down.need(11, 11 - i), 4, 11 - i);
+        }
+        C.due("not over the other way", up.need(11, 0), 2);
+        C.due("all that a step may need, 1", down.need(0, 11), 2);
     }
 
     private static void promise4() {
@@ -194,6 +214,23 @@ final class StepsAndNeedsTest {
         C.letters("one of each branch", x, "uxoxo");
         x.days(1);
         C.letters("all", x, "xxoxo");
+        TrousseauFlow y = new TrousseauFlow();
+        for (int i = 0; i < 12; i++) {
+            y.step(1, 0, i % 4, false);
+        }
+        y.hands(4);
+        y.days(4);
+        C.letters("twelve done", y, "dddddddddddd");
+        C.due("cancel(3) of three", y.cancel(3), 3);
+        y.days(1);
+        C.letters("the branch 3", y, "dddudddudddx");
+        C.due("cancel(2) of three", y.cancel(2), 3);
+        C.due("cancel(1) of three", y.cancel(1), 3);
+        y.days(1);
+        C.letters("all branches", y, "duuuduuxdxxx");
+        C.dueText("by the branches, 3", Check.event(y, 0), "4 7 5");
+        C.dueText("by the branches, 2", Check.event(y, 1), "4 10 5");
+        C.dueText("by the branches, 1", Check.event(y, 2), "4 9 5");
     }
 
     private static void promise7() {
@@ -383,5 +420,10 @@ final class StepsAndNeedsTest {
         x.step(9, 0, 0, false);
         x.milestone(2, 3);
         C.due("with one that waits", x.late(), 22);
+        TrousseauFlow y = twoSteps();
+        y.milestone(0, 1);
+        C.due("a milestone", y.late(), 0);
+        y.days(9);
+        C.due("the first one counts", y.late(), 1);
     }
 }

@@ -92,6 +92,9 @@ final class TextsAndLinesTest {
         wrong("day", 3);
         wrong("day ", 4);
         wrong("dax 1", 2);
+        wrong("da5", 2);
+        wrong("day5", 3);
+        wrong("handy 2", 4);
         wrong("step 12 0 0", 6);
         wrong("step 1 0", 8);
         wrong("step 1 00", 8);
@@ -109,6 +112,10 @@ final class TextsAndLinesTest {
         wrong("hands 12", 7);
         wrong("hands x", 6);
         wrong("hand 2", 4);
+        wrong("step 1x0 0", 6);
+        wrong("step 1 x 0", 7);
+        wrong("step 1 0x0", 8);
+        wrong("step 1 0 x", 9);
         wrong("cancel 1?", 8);
         wrong("cancel 11", 8);
         wrong("mile 1@", 7);

@@ -110,6 +110,8 @@ final class WhatComesTest {
             }
         }
         for (int i = 0; i < 12; i++) {
+            C.due("ranked(" + i + ") of twelve", y.ranked(i), i);
+            C.due("doneIn(" + i + ") of twelve", y.doneIn(i), 9 * (12 - i) + 1);
             C.due("long chain(" + i + ")", y.chain(i), 9 * (12 - i));
             C.due("long chainAgain(" + i + ")", y.chainAgain(i), 9 * (12 - i));
         }
@@ -155,8 +157,10 @@ final class WhatComesTest {
         }
         y.hands(4);
         y.days(2);
+        String[] twelve = {"0 11 1", "0 10 1", "1 9 1", "1 8 1", "1 7 1", "1 6 1", "0 9 0", "0 8 0", "0 7 0", "0 6 0",
+            "5 5 0", "5 4 0", "5 3 0", "5 2 0", "5 1 0", "5 0 0"};
         for (int k = 0; k < 16; k++) {
-            C.due("place " + k, y.logged(k, 0) >= 0 ? 1 : 0, 1);
+            C.dueText("place " + k, Check.event(y, k), twelve[k]);
         }
         C.due("the place 16", y.logged(16, 0), NONE);
         C.dueText("the latest", Check.event(y, 0), "0 11 1");
@@ -164,6 +168,7 @@ final class WhatComesTest {
         y.days(1);
         C.dueText("the first that is kept then", Check.event(y, 15), "5 2 0");
         C.dueText("the latest then", Check.event(y, 0), "1 11 2");
+        C.due("the place 16 then", y.logged(16, 0), NONE);
     }
 
     private static void logIs(TrousseauFlow x, String when, String[] due) {
