@@ -189,13 +189,13 @@ final class AccountsAndUndoTest {
             x.cancel(2);
             x.milestone(0, 2);
             x.days(3);
-            String before = picture(x);
+            String before = Picture.ofChanges(x);
             int count = x.account(18);
             change(x, kind);
             C.due(KINDS[kind] + " counts", x.account(18), count + 1);
-            C.due(KINDS[kind] + " changes", picture(x).equals(before) ? 1 : 0, 0);
+            C.due(KINDS[kind] + " changes", Picture.ofChanges(x).equals(before) ? 1 : 0, 0);
             C.due(KINDS[kind] + " undone", x.undo(), count);
-            C.dueText(KINDS[kind] + " is undone", picture(x), before);
+            C.dueText(KINDS[kind] + " is undone", Picture.ofChanges(x), before);
             x.hands(2);
             C.due("a change by which nothing is different", x.account(18), count + 1);
         }
@@ -246,7 +246,7 @@ final class AccountsAndUndoTest {
         x.milestone(1, 40);
         x.days(13);
         x.fault(1, 5);
-        String before = picture(x);
+        String before = Picture.ofChanges(x);
         x.save();
         for (int k = 0; k < 6; k++) {
             x.undo();
@@ -262,7 +262,7 @@ final class AccountsAndUndoTest {
         x.hands(3);
         x.days(2);
         x.restore();
-        C.dueText("all of it is back", picture(x), before);
+        C.dueText("all of it is back", Picture.ofChanges(x), before);
         C.refused("its milestone, too", x, x.milestone(1, 1), 3, 40);
         C.due("and not the other's", x.milestone(0, 1), 1);
         TrousseauFlow y = new TrousseauFlow();
@@ -313,47 +313,27 @@ final class AccountsAndUndoTest {
         x.milestone(1, 2);
         x.days(4);
         x.cancel(2);
-        String before = picture(x);
+        String before = Picture.ofChanges(x);
         C.due("save in place of it", x.save(), 4);
         C.due("it is no change", x.account(18), 8);
-        C.dueText("it changes nothing", picture(x), before);
+        C.dueText("it changes nothing", Picture.ofChanges(x), before);
         x.days(30);
         x.cancel(1);
         x.step(1, 0, 2, false);
         x.append('d');
         C.due("restore", x.restore(), 4);
-        C.dueText("all is back", picture(x), before);
+        C.dueText("all is back", Picture.ofChanges(x), before);
         C.due("the text stays", x.account(17), 1);
         C.due("nothing can be undone", x.account(18), 0);
         C.due("undo", x.undo(), NOTHING);
         x.days(1);
         C.due("one change", x.account(18), 1);
         C.due("the snapshot stays", x.restore(), 4);
-        C.dueText("all is back again", picture(x), before);
+        C.dueText("all is back again", Picture.ofChanges(x), before);
         x.days(2);
         C.due("save later", x.save(), 6);
         x.undo();
         C.due("undo leaves the snapshot", x.restore(), 6);
         C.due("no step more", x.stepOf(2, 0), NONE);
-    }
-
-    /** All that changes can change, as far as it can be asked for. */
-    private static String picture(TrousseauFlow x) {
-        StringBuilder text = new StringBuilder();
-        for (int what = 0; what <= 16; what++) {
-            text.append(x.account(what)).append(' ');
-        }
-        for (int i = 0; i < x.account(1); i++) {
-            for (int what = 0; what <= 9; what++) {
-                text.append(x.stepOf(i, what)).append(' ');
-            }
-        }
-        for (int k = 0; k < x.account(11); k++) {
-            text.append(x.milestoneOf(k, 0)).append('@').append(x.milestoneOf(k, 1)).append(' ');
-        }
-        for (int k = 0; k <= 16; k++) {
-            text.append(Check.event(x, k)).append(',');
-        }
-        return text.toString();
     }
 }
