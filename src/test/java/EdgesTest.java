@@ -618,6 +618,11 @@ final class EdgesTest {
         C.dueNumber("all went wrong", y.wrongShare(), 1.0f);
         y.undo();
         C.dueNumber("undone", y.wrongShare(), 2.0f / 3.0f);
+        TrousseauFlow z = new TrousseauFlow();
+        z.step(1, 0, 0, false);
+        z.fault(0, 1);
+        z.days(2);
+        C.dueNumber("the only one went wrong", z.wrongShare(), 1.0f);
     }
 
     private static void linesOfOneSignAndMore() {
